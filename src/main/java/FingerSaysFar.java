@@ -154,9 +154,7 @@ public final class FingerSaysFar {
         for (int c = 0; c < CELLS; c++) {
             if (finder.far[c] <= t) {
                 reached++;
-                boolean farther = finder.far[c] > finder.far[farthest];
-                boolean likeButLess = finder.far[c] == finder.far[farthest] && c < farthest;
-                farthest = farther || likeButLess ? c : farthest;
+                farthest = finder.far[c] > finder.far[farthest] ? c : farthest;
             }
         }
         return what == 0 ? reached : farthest;

@@ -42,6 +42,8 @@ public final class PromiseTest {
         faults();
         lawValues();
         stepAndArm();
+        uphill();
+        slowSteps();
         ways();
         reaches();
         twoWalkers();
@@ -231,18 +233,24 @@ public final class PromiseTest {
         due(9, "without a text", x.step(1, 0), 10 + 15 + 4 + 1 + 3 - 6);
         due(9, "without a text, down", x.step(1000, 0), 10 + 4 + 1 + 3 - 6);
         String[] texts = {"u", "20+k", "l", "s", "w", "h", "0", "100", "99", "0-5", "7-2-1", "20/3*2", "20%7*2",
-            "50+-7/2", "50+-7%4", "50/0", "9+5%0", "5|0", "0|0", "3&2", "3&0", "2<3", "3<3", "3=3", "4>3", "!5+4", "!0+4",
+            "50+-7/2", "50+-7%4", "50/0", "9+5%0", "5|0", "0|0", "3&2", "3&0", "2<3", "3<3", "3=3", "4>3",
+            "5+(5|0)", "5+(0|5)", "5+(0|0)", "5+(3&2)", "5+(3&0)", "5+(0&3)", "5+(1&1)", "5+(2<3)", "5+(3<3)", "5+(4<3)",
+            "5+(3=3)", "5+(3=4)", "5+(4>3)", "5+(3>3)", "5+(2>3)", "5+7/0", "5+7%0", "0|0|3?4;5", "0?1;0|2?0|6&0|7;5",
+            "1?((((((8))))));5", "1?!!!!!!8+7;5", "!5+4", "!0+4",
             "1+2*3", "(1+2)*3", "2*3<7&1", "1|0&0", "-k", "--k+5", "!k*9+8", "0?9", "0?9;8", "5?9;8", "k>0?9;u>3?8;7",
             "0?1;0?2;3", "9999*9999*9999*9999", "1-9999*9999*9999", "4+3?6", "8&9", "(5)", "(k<0)*(l+s)", "0007+8",
             "(0-2147*1000*1000-4836*100-48)/-1+20", "(0-2147*1000*1000-4836*100-48)%-1+20"};
         int[] values = {5, 17, 4, 6, 1, 7, 1, 99, 99, 1, 4, 12, 12,
-            47, 47, 1, 9, 1, 1, 1, 1, 1, 1, 1, 1, 4, 5,
+            47, 47, 1, 9, 1, 1, 1, 1, 1, 1, 1, 1,
+            6, 6, 5, 6, 5, 5, 6, 6, 5, 5,
+            6, 5, 6, 5, 5, 5, 5, 4, 1,
+            8, 8, 4, 5,
             7, 9, 1, 1, 3, 2, 8, 1, 8, 9, 8,
             3, 1, 1, 6, 1, 5, 10, 15,
             99, 20};
-        values[39] = held(9999 * 9999 * 9999 * 9999);
-        values[40] = held(1 - 9999 * 9999 * 9999);
-        values[46] = held((0 - 2147 * 1000 * 1000 - 4836 * 100 - 48) / -1 + 20);
+        values[60] = held(9999 * 9999 * 9999 * 9999);
+        values[61] = held(1 - 9999 * 9999 * 9999);
+        values[67] = held((0 - 2147 * 1000 * 1000 - 4836 * 100 - 48) / -1 + 20);
         for (int i = 0; i < texts.length; i++) {
             due(8, "law " + texts[i], feedLaw(x, texts[i]), 1);
             due(9, "step by " + texts[i], x.step(1, 0), values[i]);
@@ -277,6 +285,55 @@ public final class PromiseTest {
         for (int aw : new int[] {-1, 2, 10, 11, -10, Integer.MIN_VALUE, Integer.MAX_VALUE}) {
             due(10, "arm " + aw, x.arm(aw), BAD);
         }
+    }
+
+    /** Arms, ways, meetings and rounds where a step back is not as long as a step on. */
+    private static void uphill() {
+        FingerSaysFar x = walkersOf(0, 1);
+        for (int cell = 0; cell < 144; cell++) {
+            x.mend(cell, 0, Math.min(9, cell % 12));
+        }
+        x.post(3);
+        x.post(9006);
+        due(10, "up", x.arm(0), 3 * 8);
+        due(10, "up, the other", x.arm(1), 3 * 7);
+        due(10, "down", x.arm(10), 3 * 5);
+        due(10, "down, the other", x.arm(11), 3 * 4);
+        due(13, "up", x.together(3, 10), 24);
+        due(15, "up and down", x.meet(9, 1, 0), 3);
+        due(15, "up and down", x.meet(9, 1, 1), 24);
+        due(15, "down and up", x.meet(9000, 1, 0), 4);
+        due(15, "down and up", x.meet(9000, 1, 1), 28);
+        due(19, "up and down", x.round(1, 0, -1), 0);
+        due(19, "up and down", x.round(3002, 0, -1), 6 * 8 + 6 * 5);
+        due(20, "the second post", x.hearts(11, 12, 0), 1);
+        due(20, "the second post", x.hearts(11, 12, 1), 1);
+        due(20, "0 minutes", x.hearts(11, 0, 0), 0);
+        due(21, "the second post", x.pairs(11, 12), 9);
+        due(21, "0 minutes", x.pairs(11, 0), 0);
+        due(23, "the second post", x.weathers(11, 15), 3);
+        due(23, "0 minutes", x.weathers(11, 0), 0);
+        due(29, "one post more", x.drawn(1, 1, 0), x.drawn(1, 1, 1));
+    }
+
+    /** Steps of 99 minutes, the most that a ring of waiting cells must hold, and of 1 beside them. */
+    private static void slowSteps() {
+        FingerSaysFar x = walkersOf(0);
+        feedLaw(x, "99");
+        due(11, "across", x.way(143, 0, -1), 22 * 99);
+        due(11, "back", x.way(143000, 0, -1), 22 * 99);
+        due(11, "back to 0", x.way(143000, 0, 22), 0);
+        due(12, "999", x.reach(0, 0, 999, 0), 66);
+        feedLaw(x, "h=9?99;1");
+        // walls with one gap each make a way through all the moor
+        for (int y = 1; y < 12; y += 2) {
+            for (int i = 0; i < 11; i++) {
+                x.mend(12 * y + (y % 4 == 1 ? i : i + 1), 0, 9);
+            }
+        }
+        due(11, "through the gaps", x.way(120, 0, -1), 6 * 11 + 5 * 2);
+        due(11, "through the gaps", x.way(120, 0, -2), 76);
+        due(11, "cell behind 76", x.way(120, 0, 76), 120);
     }
 
     private static void ways() {
@@ -667,11 +724,14 @@ public final class PromiseTest {
         due(31, "puts down", x.putDown(0), 9);
         due(6, "load", x.of(0, 4), 0);
         due(31, "nobody", x.putDown(2), BAD);
+        due(32, "the least load", x.takes(1, 1), 1);
+        due(32, "has it", x.takes(1, 1), STATE);
+        due(31, "the least load", x.putDown(1), 1);
         due(33, "cheer", x.cheer(1), 9);
         due(33, "at most", x.cheer(1), 9);
         due(33, "nobody", x.cheer(2), VOID);
         due(33, "nobody", x.cheer(-1), VOID);
-        due(34, "loads", x.led(2), 1);
+        due(34, "loads", x.led(2), 2);
         due(34, "cheers", x.led(3), 2);
         due(34, "what", x.led(4), BAD);
         due(34, "what", x.led(-1), BAD);
@@ -768,6 +828,18 @@ public final class PromiseTest {
         }
         due(38, "none", x.redo(), STATE);
         due(6, "done again", x.of(45, 0), 1);
+        for (int i = 0; i < 40; i++) {
+            x.mend(0, 3 + i % 2, x.of(0, 3 + i % 2) == 3 ? 2 : 3);
+        }
+        for (int i = 0; i < 3; i++) {
+            x.mend(0, 6, 9 - i);
+        }
+        while (x.undo() >= 0) {
+            x.led(0);
+        }
+        due(37, "weather", x.of(0, 6), 0);
+        due(37, "the heart of the third change", x.of(0, 3), 2);
+        due(37, "the load of the second change", x.of(0, 4), 3);
     }
 
     private static void acts() {
@@ -839,6 +911,12 @@ public final class PromiseTest {
         due(42, "it is still there", x.taken(0, 0), 3);
         due(44, "a heart", x.put(0, 0, 1), -12);
         due(45, "a heart", x.element(0, 0), Long.MIN_VALUE);
+        x.row(0, 2, 5);
+        x.keep(0, 0);
+        due(42, "a heart in a row's place", x.put(0, 0, 1), -12);
+        due(42, "a heart in a row's place", x.taken(0, 3), 3);
+        x.row(0, 2, 5);
+        due(43, "a row in a heart's place", x.taken(0, 3), -12);
         due(42, "nothing", x.keep(0, -1), 1);
         due(44, "nothing", x.put(0, 0, 1), -11);
         due(45, "nothing", x.element(0, 0), Long.MIN_VALUE);
