@@ -239,7 +239,8 @@ public final class PromiseTest {
             "1?((((((8))))));5", "1?!!!!!!8+7;5", "!5+4", "!0+4",
             "1+2*3", "(1+2)*3", "2*3<7&1", "1|0&0", "-k", "--k+5", "!k*9+8", "0?9", "0?9;8", "5?9;8", "k>0?9;u>3?8;7",
             "0?1;0?2;3", "9999*9999*9999*9999", "1-9999*9999*9999", "4+3?6", "8&9", "(5)", "(k<0)*(l+s)", "0007+8",
-            "(0-2147*1000*1000-4836*100-48)/-1+20", "(0-2147*1000*1000-4836*100-48)%-1+20"};
+            "(0-2147*1000*1000-4836*100-48)/-1+20", "(0-2147*1000*1000-4836*100-48)%-1+20",
+            "5+(1|1&0)", "5+(0&1|1)", "0?9;0?8", "20"};
         int[] values = {5, 17, 4, 6, 1, 7, 1, 99, 99, 1, 4, 12, 12,
             47, 47, 1, 9, 1, 1, 1, 1, 1, 1, 1, 1,
             6, 6, 5, 6, 5, 5, 6, 6, 5, 5,
@@ -247,7 +248,8 @@ public final class PromiseTest {
             8, 8, 4, 5,
             7, 9, 1, 1, 3, 2, 8, 1, 8, 9, 8,
             3, 1, 1, 6, 1, 5, 10, 15,
-            99, 20};
+            99, 20,
+            6, 6, 1, 20};
         values[60] = held(9999 * 9999 * 9999 * 9999);
         values[61] = held(1 - 9999 * 9999 * 9999);
         values[67] = held((0 - 2147 * 1000 * 1000 - 4836 * 100 - 48) / -1 + 20);
@@ -306,6 +308,10 @@ public final class PromiseTest {
         due(15, "down and up", x.meet(9000, 1, 1), 28);
         due(19, "up and down", x.round(1, 0, -1), 0);
         due(19, "up and down", x.round(3002, 0, -1), 6 * 8 + 6 * 5);
+        x.post(3000);
+        due(19, "order", x.round(3, 0, 0), 0);
+        due(19, "there and back by another post", x.round(15006, 0, -1), 5 + 6 * 8 + 6 * 5 + 5);
+        due(11, "up in all", x.way(9, 0, -3), 9);
         due(20, "the second post", x.hearts(11, 12, 0), 1);
         due(20, "the second post", x.hearts(11, 12, 1), 1);
         due(20, "0 minutes", x.hearts(11, 0, 0), 0);
@@ -618,6 +624,10 @@ public final class PromiseTest {
         due(25, "by heart", x.byHeart(0, 1, 0), 1);
         due(25, "by heart", x.byHeart(0, 1, 1), 0);
         due(26, "whose", x.whose(0), 5);
+        x.mend(1, 4, 2);
+        x.judge(0, 0);
+        due(25, "with his own load", x.byHeart(0, 1, 1), 2);
+        x.mend(1, 4, 0);
         due(25, "what", x.byHeart(0, 1, 2), VOID);
         due(25, "nobody", x.byHeart(0, 3, 0), VOID);
         due(25, "no shelf", x.byHeart(6, 0, 0), VOID);
@@ -670,6 +680,7 @@ public final class PromiseTest {
         due(29, "n 51", x.drawn(7, 51, 0), BAD);
         due(29, "what", x.drawn(7, 1, 2), BAD);
         x.post(2);
+        due(29, "one post", x.drawn(0, 1, 0), 2 * (10 - (12345 / 256 % 19 - 9) - 5));
         x.post(5);
         x.mend(0, 6, 2);
         int z = -123456789;
