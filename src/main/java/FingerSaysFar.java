@@ -121,7 +121,7 @@ public final class FingerSaysFar {
         if (!isPostAndWalker(aw)) {
             return BAD;
         }
-        pace.becomeOf(ruling, moor, aw % 10);
+        setPace(aw % 10);
         return armAt(aw / 10);
     }
 
@@ -129,7 +129,7 @@ public final class FingerSaysFar {
         if (!isFromTo(ft) || !isWalker(walker) || k < -3) {
             return BAD;
         }
-        pace.becomeOf(ruling, moor, walker);
+        setPace(walker);
         finder.findWay(pace, fromOf(ft), toOf(ft));
         if (k == -1) {
             return finder.far[fromOf(ft)];
@@ -147,7 +147,7 @@ public final class FingerSaysFar {
         if (!isCell(cell) || !isWalker(walker) || !within(t, 0, REACH_MOST) || !isFirstOrSecond(what)) {
             return BAD;
         }
-        pace.becomeOf(ruling, moor, walker);
+        setPace(walker);
         finder.spread(pace, cell, false, ALL_CELLS, finder.far);
         int reached = 0;
         int farthest = cell;
@@ -164,18 +164,20 @@ public final class FingerSaysFar {
         if (!isFromTo(ft) || !areTwoWalkers(ab)) {
             return BAD;
         }
-        return minutesOfTwo(ft, ab / 10, ab % 10);
+        setPace(ab / 10);
+        return minutesWith(ft, ab % 10);
     }
 
     public int withWhom(int ft, int walker) {
         if (!isFromTo(ft) || !isWalker(walker)) {
             return BAD;
         }
+        setPace(walker);
         int best = NOT;
         int least = 0;
         for (int other = 0; other < moor.walkerCount; other++) {
             if (other != walker) {
-                int minutes = minutesOfTwo(ft, walker, other);
+                int minutes = minutesWith(ft, other);
                 if (best == NOT || minutes < least) {
                     best = other;
                     least = minutes;
@@ -189,9 +191,9 @@ public final class FingerSaysFar {
         if (!isFromTo(ft) || !areTwoWalkers(ab) || !isFirstOrSecond(what)) {
             return BAD;
         }
-        pace.becomeOf(ruling, moor, ab / 10);
+        setPace(ab / 10);
         finder.spread(pace, fromOf(ft), false, ALL_CELLS, finder.far);
-        pace.becomeOf(ruling, moor, ab % 10);
+        setPace(ab % 10);
         finder.spread(pace, toOf(ft), false, ALL_CELLS, finder.otherFar);
         int where = 0;
         int least = Math.max(finder.far[0], finder.otherFar[0]);
@@ -209,7 +211,7 @@ public final class FingerSaysFar {
         if (!isFromTo(ft) || !isWalker(walker) || !within(t, 0, MINUTES_MOST)) {
             return BAD;
         }
-        pace.becomeOf(ruling, moor, walker);
+        setPace(walker);
         for (int load = LOAD_MOST; load >= 0; load--) {
             pace.withLoad(load);
             if (finder.minutes(pace, fromOf(ft), toOf(ft)) <= t) {
@@ -223,7 +225,7 @@ public final class FingerSaysFar {
         if (!isFromTo(ft) || !isWalker(walker) || !within(t, 0, MINUTES_MOST)) {
             return VOID;
         }
-        pace.becomeOf(ruling, moor, walker);
+        setPace(walker);
         for (int heart = HEART_LEAST; heart <= HEART_MOST; heart++) {
             pace.withHeart(heart);
             if (finder.minutes(pace, fromOf(ft), toOf(ft)) <= t) {
@@ -237,7 +239,7 @@ public final class FingerSaysFar {
         if (!isFromTo(ft) || !isWalker(walker) || !isCell(other)) {
             return BAD;
         }
-        pace.becomeOf(ruling, moor, walker);
+        setPace(walker);
         finder.findWay(pace, fromOf(ft), toOf(ft));
         finder.spread(pace, other, true, ALL_CELLS, finder.otherFar);
         for (int k = finder.steps; k >= 0; k--) {
@@ -263,7 +265,7 @@ public final class FingerSaysFar {
         if (k >= Integer.bitCount(set)) {
             return NOT;
         }
-        pace.becomeOf(ruling, moor, walker);
+        setPace(walker);
         measureTour(cs / 1000, set);
         tour.findBest();
         return k == -1 ? tour.least : tour.best[k];
@@ -275,7 +277,7 @@ public final class FingerSaysFar {
         if (!isPostAndWalker(aw) || !within(a, 0, MINUTES_MOST) || !isFirstOrSecond(what)) {
             return VOID;
         }
-        pace.becomeOf(ruling, moor, aw % 10);
+        setPace(aw % 10);
         int fitting = 0;
         int least = NO_HEART;
         for (int heart = HEART_LEAST; heart <= HEART_MOST; heart++) {
@@ -292,7 +294,7 @@ public final class FingerSaysFar {
         if (!isPostAndWalker(aw) || !within(a, 0, MINUTES_MOST)) {
             return BAD;
         }
-        pace.becomeOf(ruling, moor, aw % 10);
+        setPace(aw % 10);
         int fitting = 0;
         for (int heart = HEART_LEAST; heart <= HEART_MOST; heart++) {
             pace.withHeart(heart);
@@ -310,7 +312,8 @@ public final class FingerSaysFar {
         if (!isWalker(walker) || !isFirstOrSecond(what)) {
             return BAD;
         }
-        fillArmsByHeart(walker);
+        setPace(walker);
+        fillArmsByHeart();
         int best = NOT;
         int least = 0;
         for (int post = 0; post < moor.postCount; post++) {
@@ -327,7 +330,7 @@ public final class FingerSaysFar {
         if (!isPostAndWalker(aw) || !within(t, 0, MINUTES_MOST)) {
             return BAD;
         }
-        pace.becomeOf(ruling, moor, aw % 10);
+        setPace(aw % 10);
         int bits = 0;
         for (int weather = 0; weather <= WEATHER_MOST; weather++) {
             pace.withWeather(weather);
@@ -346,7 +349,7 @@ public final class FingerSaysFar {
         if (refusal != 0) {
             return refusal;
         }
-        pace.becomeOf(ruling, moor, walker);
+        setPace(walker);
         return firstWrongTwo(shelves[shelf]);
     }
 
@@ -354,7 +357,7 @@ public final class FingerSaysFar {
         if (!isShelf(shelf) || !isWalker(walker) || !isFirstOrSecond(what) || refusalOfBook(shelf) != 0) {
             return VOID;
         }
-        pace.becomeOf(ruling, moor, walker);
+        setPace(walker);
         int fitting = 0;
         int least = NO_HEART;
         for (int heart = HEART_LEAST; heart <= HEART_MOST; heart++) {
@@ -377,7 +380,7 @@ public final class FingerSaysFar {
         }
         int bits = 0;
         for (int walker = 0; walker < moor.walkerCount; walker++) {
-            pace.becomeOf(ruling, moor, walker);
+            setPace(walker);
             if (firstWrongTwo(shelves[shelf]) == NOT) {
                 bits |= 1 << walker;
             }
@@ -399,7 +402,7 @@ public final class FingerSaysFar {
         if (!isWalker(walker) || !isFirstOrSecond(what)) {
             return BAD;
         }
-        pace.becomeOf(ruling, moor, walker);
+        setPace(walker);
         int best = NOT;
         int most = 0;
         int sum = 0;
@@ -696,9 +699,14 @@ public final class FingerSaysFar {
         return fit && moor.addWalker(heart, load, shoes) >= 0;
     }
 
+    private void setPace(int walker) {
+        pace.become(ruling, moor, moor.heart[walker], moor.load[walker], moor.shoes[walker]);
+    }
+
     private int stepMinutes(int walker, int from, int to) {
-        pace.becomeOf(ruling, moor, walker);
-        return pace.minutes(from, to);
+        int h = moor.heights[to];
+        int u = h - moor.heights[from];
+        return ruling.minutes(u, moor.heart[walker], moor.load[walker], moor.shoes[walker], moor.weather, h);
     }
 
     /** THE ARM of a POST by the pace that is set. */
@@ -706,16 +714,15 @@ public final class FingerSaysFar {
         return finder.minutes(pace, moor.postCell[post], moor.postTo[post]);
     }
 
-    private int minutesOfTwo(int ft, int one, int other) {
-        otherPace.becomeOf(ruling, moor, other);
-        pace.becomeOf(ruling, moor, one);
-        pace.companion = otherPace;
-        return finder.minutes(pace, fromOf(ft), toOf(ft));
+    /** TOGETHER of him whose pace is set, and another. */
+    private int minutesWith(int ft, int other) {
+        otherPace.become(ruling, moor, moor.heart[other], moor.load[other], moor.shoes[other]);
+        otherPace.slowTo(pace);
+        return finder.minutes(otherPace, fromOf(ft), toOf(ft));
     }
 
     /** Hearts outside, posts inside: so each heart's step minutes are worked out once. */
-    private void fillArmsByHeart(int walker) {
-        pace.becomeOf(ruling, moor, walker);
+    private void fillArmsByHeart() {
         for (int i = 0; i < HEARTS; i++) {
             pace.withHeart(HEART_LEAST + i);
             for (int post = 0; post < moor.postCount; post++) {
@@ -750,22 +757,18 @@ public final class FingerSaysFar {
     private int firstWrongTwo(Shelf book) {
         Arrays.fill(knownArms, -1);
         for (int i = 0; i < book.size; i += 2) {
-            boolean isWhole = book.hasPlaces(i, 2);
-            if (!isWhole || !isSo((int) book.values[i], (int) book.values[i + 1])) {
+            int post = (int) book.values[i];
+            if (i + 1 >= book.size || !within(post, 0, moor.postCount - 1)) {
+                return i / 2;
+            }
+            if (knownArms[post] < 0) {
+                knownArms[post] = armAt(post);
+            }
+            if (knownArms[post] != book.values[i + 1]) {
                 return i / 2;
             }
         }
         return NOT;
-    }
-
-    private boolean isSo(int post, int told) {
-        if (!within(post, 0, moor.postCount - 1)) {
-            return false;
-        }
-        if (knownArms[post] < 0) {
-            knownArms[post] = armAt(post);
-        }
-        return knownArms[post] == told;
     }
 
     /** Tells the tour the minutes among the CELL it begins in and the POSTS of the set. */
@@ -1060,7 +1063,7 @@ public final class FingerSaysFar {
         }
 
         private int letter() {
-            return within(place, 0, length - 1) ? letters[place] : -1;
+            return place >= 0 && place < length ? letters[place] : -1;
         }
 
         private void fail() {
@@ -1184,24 +1187,20 @@ public final class FingerSaysFar {
         }
     }
 
-    /** How many minutes a step takes one, alone or with a companion. */
+    /** How many minutes each step takes one. */
     private static final class Pace {
-        // By heights from and to; 0: not yet worked out (a step takes 1 at least).
-        // Kept, as a way asks for few pairs of heights, and for each many times.
-        private final int[] known = new int[HEIGHTS * HEIGHTS];
+        private static final int PAIRS = HEIGHTS * HEIGHTS;
+
+        // A step's minutes hang on its two heights alone, so they are worked out once for each pair of heights
+        // that lie side by side, and not for each step.
+        private final int[] known = new int[PAIRS];
+        private final int[] wanted = new int[PAIRS];
         private Law law;
         private int[] heights;
         private int heart;
         private int load;
         private int shoes;
         private int weather;
-        Pace companion;
-
-        void becomeOf(Law ruling, Moor moor, int walker) {
-            if (within(walker, 0, moor.walkerCount - 1)) {
-                become(ruling, moor, moor.heart[walker], moor.load[walker], moor.shoes[walker]);
-            }
-        }
 
         void become(Law ruling, Moor moor, int itsHeart, int itsLoad, int itsShoes) {
             law = ruling;
@@ -1210,48 +1209,61 @@ public final class FingerSaysFar {
             heart = itsHeart;
             load = itsLoad;
             shoes = itsShoes;
-            companion = null;
-            Arrays.fill(known, 0);
+            lookForPairs(moor.heights);
+            fill();
         }
 
         void withHeart(int itsHeart) {
             heart = itsHeart;
-            Arrays.fill(known, 0);
+            fill();
         }
 
         void withLoad(int itsLoad) {
             load = itsLoad;
-            Arrays.fill(known, 0);
+            fill();
         }
 
         void withWeather(int itsWeather) {
             weather = itsWeather;
-            Arrays.fill(known, 0);
+            fill();
+        }
+
+        private void lookForPairs(int[] of) {
+            Arrays.fill(wanted, 0);
+            for (int cell = 0; cell < CELLS; cell++) {
+                if (cell % SIDE < SIDE - 1) {
+                    want(of[cell], of[cell + 1]);
+                }
+                if (cell < CELLS - SIDE) {
+                    want(of[cell], of[cell + SIDE]);
+                }
+            }
+        }
+
+        private void want(int height, int other) {
+            wanted[height * HEIGHTS + other] = 1;
+            wanted[other * HEIGHTS + height] = 1;
+        }
+
+        private void fill() {
+            for (int pair = 0; pair < PAIRS && law != null; pair++) {
+                if (wanted[pair] != 0) {
+                    int to = pair % HEIGHTS;
+                    known[pair] = law.minutes(to - pair / HEIGHTS, heart, load, shoes, weather, to);
+                }
+            }
+        }
+
+        /** From now on no step is faster than the other's. */
+        void slowTo(Pace other) {
+            for (int pair = 0; pair < PAIRS; pair++) {
+                known[pair] = Math.max(known[pair], other.known[pair]);
+            }
         }
 
         /** Of a step from a CELL to a side CELL. */
         int minutes(int from, int to) {
-            if (heights == null) {
-                return STEP_MOST;
-            }
-            int pair = heights[from] * HEIGHTS + heights[to];
-            if (!within(pair, 0, known.length - 1)) {
-                return STEP_MOST;
-            }
-            if (known[pair] == 0) {
-                known[pair] = slower(heights[from], heights[to]);
-            }
-            return known[pair];
-        }
-
-        /** Between heights, not cells. */
-        private int slower(int from, int to) {
-            int own = alone(from, to);
-            return companion == null ? own : Math.max(own, companion.alone(from, to));
-        }
-
-        private int alone(int from, int to) {
-            return law == null ? STEP_MOST : law.minutes(to - from, heart, load, shoes, weather, to);
+            return heights == null ? STEP_MOST : known[heights[from] * HEIGHTS + heights[to]];
         }
     }
 
