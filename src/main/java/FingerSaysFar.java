@@ -297,9 +297,8 @@ public final class FingerSaysFar {
         setPace(aw % 10);
         int fitting = 0;
         for (int heart = HEART_LEAST; heart <= HEART_MOST; heart++) {
-            pace.withHeart(heart);
             for (int load = 0; load <= LOAD_MOST; load++) {
-                pace.withLoad(load);
+                pace.withHeartAndLoad(heart, load);
                 if (armAt(aw / 10) == a) {
                     fitting++;
                 }
@@ -912,14 +911,13 @@ public final class FingerSaysFar {
     /** THE LAW as a row of orders for a stack; until a text is read into it, the law of the beginning. */
     private static final class Law {
         static final int NUMBER = '#', NAME = 'n', LESSEN = '~', SKIP = '?', END = ';';
-        private static final int ORDERS = TAPE + 1, DEEPEST = 64;
+        private static final int ORDERS = TAPE + 1, DEEPEST = 64, NAMES = 6;
 
         private final int[] orders = new int[ORDERS];
         private final int[] with = new int[ORDERS];
-        private final int[] names = new int[6];
+        private final int[] names = new int[NAMES];
         private final int[] stack = new int[DEEPEST];
         private int size;
-        private int top;
         private boolean isText;
 
         void beginText() {
@@ -959,28 +957,42 @@ public final class FingerSaysFar {
             return Math.max(1, Math.min(STEP_MOST, told));
         }
 
+        /** What a sound text gives; its orders take no more from the stack than lies there. */
         private int work() {
-            top = 0;
+            int top = 0;
             for (int at = 0; at < size; at++) {
                 int order = orders[at];
+                if (order == NUMBER || order == NAME) {
+                    if (top >= DEEPEST) {
+                        return 0;
+                    }
+                    stack[top] = order == NUMBER ? with[at] : valueOf(with[at]);
+                    top++;
+                    continue;
+                }
+                if (top <= 0) {
+                    return 0;
+                }
+                int last = stack[top - 1];
                 if (order == END) {
-                    return pop();
+                    return last;
                 } else if (order == SKIP) {
-                    at = pop() == 0 ? Math.max(at, with[at]) : at;
-                } else if (order == NUMBER) {
-                    push(with[at]);
-                } else if (order == NAME) {
-                    push(within(with[at], 0, names.length - 1) ? names[with[at]] : 0);
+                    top--;
+                    at = last == 0 ? Math.max(at, with[at]) : at;
                 } else if (order == LESSEN) {
-                    push(-pop());
+                    stack[top - 1] = -last;
                 } else if (order == '!') {
-                    push(pop() == 0 ? 1 : 0);
-                } else {
-                    int right = pop();
-                    push(joined(pop(), order, right));
+                    stack[top - 1] = last == 0 ? 1 : 0;
+                } else if (top >= 2) {
+                    top--;
+                    stack[top - 1] = joined(stack[top - 1], order, last);
                 }
             }
             return 0;
+        }
+
+        private int valueOf(int name) {
+            return name >= 0 && name < NAMES ? names[name] : 0;
         }
 
         private static int joined(int left, int sign, int right) {
@@ -1008,21 +1020,6 @@ public final class FingerSaysFar {
                 default:
                     return 0;
             }
-        }
-
-        private void push(int v) {
-            if (top < DEEPEST) {
-                stack[top] = v;
-                top++;
-            }
-        }
-
-        private int pop() {
-            if (top <= 0) {
-                return 0;
-            }
-            top--;
-            return stack[top];
         }
     }
 
@@ -1219,6 +1216,12 @@ public final class FingerSaysFar {
         }
 
         void withLoad(int itsLoad) {
+            load = itsLoad;
+            fill();
+        }
+
+        void withHeartAndLoad(int itsHeart, int itsLoad) {
+            heart = itsHeart;
             load = itsLoad;
             fill();
         }
