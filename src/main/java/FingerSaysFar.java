@@ -1302,8 +1302,10 @@ public final class FingerSaysFar {
             enter(start, 0);
             for (int now = 0; now < NEVER && waiting > 0; now++) {
                 int slot = now % RING;
-                for (int entry = head[slot]; entry >= 0; entry = link[entry]) {
+                int entry = head[slot];
+                for (int seen = 0; seen < ENTRIES && entry >= 0; seen++) {
                     int cell = cellOf[entry];
+                    entry = link[entry];
                     waiting--;
                     if (farOf[cell] == now) {
                         if (cell == goal) {
