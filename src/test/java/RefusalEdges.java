@@ -410,6 +410,7 @@ final class RefusalEdges extends Checks {
 
     // ---- calls that only ask
 
+    /** Promises 9 to 29, and those that tell what is: 6, 34, 41, 45, 47, 48. */
     static void p29_askingChangesNothing() {
         Call[] asking = {x -> x.step(1, 0), x -> x.arm(1), x -> x.way(143, 0, 5), x -> x.reach(5, 1, 50, 1),
             x -> x.together(143, 1), x -> x.withWhom(143, 0), x -> x.meet(143, 1, 0), x -> x.carry(143, 1, 500),
